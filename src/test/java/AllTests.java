@@ -1,0 +1,25 @@
+import java.nio.file.Path;
+
+/** Runs every test of the project; the argument is the path of CleaningRota.java. */
+public final class AllTests {
+    private AllTests() {
+    }
+
+    public static void main(String[] arguments) throws Exception {
+        String source = arguments.length > 0 ? arguments[0] : "src/main/java/CleaningRota.java";
+        FaceTest.run();
+        LanguageTest.run(Path.of(source));
+        HouseTest.run();
+        WeekTest.run();
+        SwapTest.run();
+        NumbersTest.run();
+        ForecastTest.run();
+        TextTest.run();
+        UndoTest.run();
+        RandomRunsTest.run();
+        System.out.println("checks: " + Check.rightOnes() + " passed, " + Check.wrongOnes() + " failed");
+        if (Check.wrongOnes() > 0) {
+            System.exit(1);
+        }
+    }
+}
