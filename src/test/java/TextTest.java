@@ -13,6 +13,9 @@ final class TextTest {
         promise22Longest();
         promise23Load();
         promise23LoadOfDeepTasks();
+        promise23TwelveTasks();
+        promise23ThirtyParts();
+        promise23OnlyThePadAsItIs();
         promise23PassesOver();
         promise23Errors();
     }
@@ -209,6 +212,42 @@ final class TextTest {
         Check.is("three tasks", rota.load(), 3);
         Check.is("area 0 is clean", rota.room(0, 3), 0);
         Check.is("area 1 is half done", rota.room(1, 3), 200);
+    }
+
+    private static void promise23TwelveTasks() {
+        CleaningRota rota = Houses.ofWeights(1, 1);
+        for (int i = 0; i < 6; i++) {
+            rota.area(6, 1, 200);
+        }
+        rota.set(CleaningRota.DIRTY, 1);
+        Houses.skipWeeks(rota, 1);
+        rota.plan();
+        Houses.put(rota, "10-11");
+        Check.is("numbers of two digits", rota.load(), 2);
+        tasksDone("loaded", rota, 0, 0, 0, 0, 0, 0, 0, 0, 0, 0, 1, 1);
+        Houses.put(rota, "9-99,0");
+        Check.is("the two that are open of these", rota.load(), 2);
+        tasksDone("loaded", rota, 1, 0, 0, 0, 0, 0, 0, 0, 0, 1, 1, 1);
+    }
+
+    private static void promise23ThirtyParts() {
+        CleaningRota rota = planned(9, 8, 7);
+        Houses.put(rota, "0,".repeat(29) + "2");
+        Check.is("the last part, too", rota.load(), 2);
+        tasksDone("loaded", rota, 1, 0, 1);
+    }
+
+    private static void promise23OnlyThePadAsItIs() {
+        CleaningRota rota = planned(9, 8, 7);
+        Houses.put(rota, "0,2");
+        Check.is("a right list", rota.fault(), Houses.NONE);
+        rota.wipe();
+        Houses.put(rota, "1");
+        Check.is("only what is there now", rota.load(), 1);
+        tasksDone("loaded", rota, 0, 1, 0);
+        Houses.put(rota, "2");
+        Check.is("and then", rota.load(), 1);
+        tasksDone("loaded", rota, 0, 1, 1);
     }
 
     private static void promise23PassesOver() {

@@ -8,6 +8,7 @@ final class WeekTest {
         promise7Order();
         promise7DeepTasks();
         promise7DeepEfforts();
+        promise7MostTasks();
         promise7LeastLoad();
         promise7Ties();
         promise7Away();
@@ -94,6 +95,22 @@ final class WeekTest {
             Check.is("the first half of " + one[0] + " * " + one[1], rota.task(0, 2), one[2]);
             Check.is("the second half of " + one[0] + " * " + one[1], rota.task(1, 2), one[2]);
         }
+    }
+
+    private static void promise7MostTasks() {
+        CleaningRota rota = Houses.ofWeights(1, 1, 1);
+        for (int i = 0; i < 6; i++) {
+            rota.area(1 + i, 1, 200);
+        }
+        rota.set(CleaningRota.DIRTY, 200);
+        Houses.skipWeeks(rota, 1);
+        Check.is("all areas are dirty", rota.plan(), 12);
+        Houses.areasOfTasks("twelve tasks", rota, 5, 5, 4, 4, 3, 3, 2, 2, 1, 1, 0, 0);
+        Houses.effortsOfTasks("twelve tasks", rota, 9, 9, 8, 8, 6, 6, 5, 5, 3, 3, 2, 2);
+        Check.is("open tasks", rota.count(4), 12);
+        Check.is("all of them are given", rota.about(0, 6) + rota.about(1, 6) + rota.about(2, 6), 12);
+        Check.is("no more tasks", rota.task(12, 0), Houses.NO_SUCH);
+        Check.is("all of them are skipped", rota.end(), 12);
     }
 
     private static void promise7LeastLoad() {
