@@ -16,6 +16,16 @@ public final class AllTests {
         ForecastTest.run();
         TextTest.run();
         UndoTest.run();
+        Document.read(Path.of("..", "shared", "DOC.md"));
+        EdgesOfTerms.run();
+        EdgesOfHouse.run();
+        EdgesOfWeeks.run();
+        EdgesOfSwaps.run();
+        EdgesOfNumbers.run();
+        EdgesOfForecasts.run();
+        EdgesOfTexts.run();
+        EdgesOfUndo.run();
+        Document.allIsQuoted();
         RandomRunsTest.run();
         System.out.println("checks: " + Check.rightOnes() + " passed, " + Check.wrongOnes() + " failed");
         if (Check.wrongOnes() > 0) {
