@@ -357,6 +357,11 @@ final class EdgesOfTexts {
         Edge.is("when nothing became done", NEW.pad("0").then(CleaningRota::load).ask(r -> r.count(11)), 0);
         Edge.is("its fault then", NEW.pad("0").then(CleaningRota::load).ask(CleaningRota::fault), 0);
         Edge.is("loaded again", NEW.pad("0").then(CleaningRota::load).ask(CleaningRota::load), CleaningRota.BAD_TEXT);
+        Run earlier = FULL.then(CleaningRota::wipe).pad("0-5").then(CleaningRota::load, CleaningRota::undo).pad("7")
+            .then(CleaningRota::load);
+        Edge.is("a list that was loaded before is not loaded again", earlier.answer(), 1);
+        Edge.is("a list that was read and wiped is not loaded", FULL.then(CleaningRota::fault, CleaningRota::wipe).pad("7")
+            .ask(CleaningRota::load), 1);
         Edge.is("not by undo()", NEW.pad("0").then(CleaningRota::load, Run.put("12"), CleaningRota::undo).ask(r -> r.count(11)), 2);
     }
 
