@@ -825,16 +825,16 @@ public final class CleaningRota {
         }
 
         private int spreadOf(boolean withOpenTasks, int gaining, int losing, int gain) {
-            int least = Integer.MAX_VALUE;
+            int least = 0;
             int greatest = 0;
             for (int resident = 0; resident < residents.size(); resident++) {
                 int amount = withOpenTasks ? loadOf(resident) : residents.cell(resident, WORK);
                 int change = resident == gaining ? gain : resident == losing ? -gain : 0;
                 int rate = rateOf(resident, amount + change);
-                least = Math.min(least, rate);
+                least = resident == 0 ? rate : Math.min(least, rate);
                 greatest = Math.max(greatest, rate);
             }
-            return Math.max(0, greatest - least);
+            return greatest - least;
         }
     }
 

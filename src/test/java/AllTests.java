@@ -9,6 +9,7 @@ public final class AllTests {
         String source = arguments.length > 0 ? arguments[0] : "src/main/java/CleaningRota.java";
         FaceTest.run();
         LanguageTest.run(Path.of(source));
+        ReadmeTest.run(Path.of("README.md"));
         HouseTest.run();
         WeekTest.run();
         SwapTest.run();
